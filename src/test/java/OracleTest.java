@@ -221,7 +221,8 @@ public final class OracleTest {
                     guard.copy(s, i, t, j, n), oracle.copy(s, i, t, j, n));
                 break;
             case 6:
-                check.due(where + "write(" + j + ", " + s + ")", guard.write(j % 9, s), oracle.write(j % 9, s));
+                j = pick(8);
+                check.due(where + "write(" + j + ", " + s + ")", guard.write(j, s), oracle.write(j, s));
                 break;
             default:
                 if (!Oracle.bad(s, 4) && dice.nextInt(4) != 0) form = oracle.forms[s];
