@@ -901,40 +901,32 @@ public final class SneezeGuard {
         }
 
         void planSpare() {
-            howMany = NONE;
-            first = NONE;
-            second = NONE;
+            setSpare(NONE, NONE, NONE);
             if (kingdom.told.forgotten == 0) {
-                howMany = 0;
-            } else if (!sparesOne()) {
-                spareTwo();
+                setSpare(0, NONE, NONE);
+                return;
             }
-        }
-
-        private boolean sparesOne() {
             int every = kingdom.events.everyBit();
             for (int e = 0; e < kingdom.events.events; e++) {
                 if (kingdom.forgottenWith(every & ~(1 << e)) == 0) {
-                    howMany = 1;
-                    first = e;
-                    return true;
+                    setSpare(1, e, NONE);
+                    return;
                 }
             }
-            return false;
-        }
-
-        private void spareTwo() {
-            int every = kingdom.events.everyBit();
             for (int e = 0; e < kingdom.events.events; e++) {
                 for (int f = e + 1; f < kingdom.events.events; f++) {
                     if (kingdom.forgottenWith(every & ~(1 << e | 1 << f)) == 0) {
-                        howMany = 2;
-                        first = e;
-                        second = f;
+                        setSpare(2, e, f);
                         return;
                     }
                 }
             }
+        }
+
+        private void setSpare(int spared, int firstSpared, int secondSpared) {
+            howMany = spared;
+            first = firstSpared;
+            second = secondSpared;
         }
     }
 

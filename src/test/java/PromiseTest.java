@@ -499,6 +499,23 @@ public final class PromiseTest {
         retold(x, "03", "p9e9;p0e9");
         due("18 quiet()", x.quiet(), 1);
         due("17 busy()", x.busy(), NONE);
+        // A sneeze in HOUR 0 counts: without it the two would have changed as many.
+        x = guard("00;90", "p0e9;p9w9");
+        x.event(0, 0, 9);
+        due("17 busy()", x.busy(), 1);
+        x = general();
+        x.event(1, 8, 0);
+        x.event(1, 17, 0);
+        due("18 quiet()", x.quiet(), 1);
+        x.event(2, 0, 0);
+        due("18 quiet(): a sneeze in HOUR 0", x.quiet(), 0);
+        // Who is told no more has changed nothing.
+        x = guard("50", "p0e9;g9w9");
+        due("17 busy()", x.busy(), 1);
+        due("12 stood(8, 0, 2)", x.stood(8, 0, 2), 1);
+        retold(x, "50", "p0e9");
+        due("17 busy()", x.busy(), NONE);
+        due("12 stood(8, 0, 2)", x.stood(8, 0, 2), NONE);
         due("18 quiet() of none", new SneezeGuard().quiet(), 0);
         due("17 busy() of none", new SneezeGuard().busy(), NONE);
     }
@@ -519,6 +536,7 @@ public final class PromiseTest {
         due("19 stroll(0, 2)", x.stroll(0, 2), BAD);
         due("19 stroll(0, -1)", x.stroll(0, -1), BAD);
         for (int n : FAR) due("19 stroll(" + n + ", 0)", x.stroll(n, 0), BAD);
+        due("20 dust(3, 0)", x.dust(3, 0), 3);
         x.wipe(0);
         due("19 stroll(0, 0) of no POSTS", x.stroll(0, 0), 0);
         due("19 stroll(0, 1) of no POSTS", x.stroll(0, 1), 0);
@@ -600,6 +618,10 @@ public final class PromiseTest {
         // Without EVENTS nothing can be spared.
         spareDue(guard("50", ""), NONE, NONE, NONE);
         spareDue(new SneezeGuard(), 0, NONE, NONE);
+        x = general();
+        x.event(1, 8, 0);
+        x.event(1, 17, 0);
+        spareDue(x, 2, 0, 1);
         // Of like ones the least: the least row, not the first found to stand shortest.
         x = general();
         x.event(1, 8, 0);
@@ -696,6 +718,20 @@ public final class PromiseTest {
         due("27 ask(0): 5 alone is left", x.ask(0), 0);
         x.seen(4, 0, 0);
         due("27 ask(0): none is left", x.ask(0), 0);
+        // 1 and 2 are left: HOUR 0 tells them, HOUR 1 does not.
+        x.forget();
+        x.seen(1, 0, 1);
+        due("27 ask(0)", x.ask(0), 0);
+        // 2 and 4 are left: HOUR 1 tells them.
+        x.forget();
+        x.seen(7, 0, 1);
+        x.seen(3, 0, 1);
+        x.seen(0, 0, 0);
+        due("27 ask(0)", x.ask(0), 1);
+        // 8 and 9 are left.
+        x.forget();
+        for (int hour = 3; hour < 7; hour++) x.seen(hour, 0, 0);
+        due("27 ask(0)", x.ask(0), 7);
         due("27 ask(1)", x.ask(1), BAD);
         due("27 ask(-1)", x.ask(-1), BAD);
         for (int n : FAR) due("27 ask(" + n + ")", x.ask(n), BAD);
@@ -764,6 +800,9 @@ public final class PromiseTest {
         due("29 decades(7, 4, 0)", x.decades(7, 4, 0), 2);
         due("29 changes(10) as it is", x.changes(10), 0);
         due("29 changes(3) as it is", x.changes(3), 1);
+        // Then PEPPER in 4, CELL 0, where he is not, and a FROST in 15.
+        due("29 decades(7, 7, 0)", x.decades(7, 7, 0), 3);
+        due("29 decades(7, 8, 0)", x.decades(7, 8, 0), 4);
         due("29 decades(0, 9, 0)", x.decades(0, 9, 0), BAD);
         due("29 decades(0, -1, 0)", x.decades(0, -1, 0), BAD);
         due("29 decades(0, 0, 2)", x.decades(0, 0, 2), BAD);
@@ -889,6 +928,11 @@ public final class PromiseTest {
             due("35 item 24: as it was", x.get(0, form, 24), 99);
             due("35 item 25: as it was", x.get(0, form, 25), 0);
         }
+        tell(x, 0, ";00");
+        due("35 write(1, 0) of the next POST", x.write(1, 0), 24);
+        // It hears the general in HOUR 17 alone, from CELL 1.
+        for (int h = 0; h < 24; h++) due("35 item " + h, x.get(0, 2, h), h < 17 ? h + 1 : h - 17);
+        retold(x, "50", "g0e9");
         x.sheet(1, 0, 3);
         due("35 write(0, 1): as many as there are", x.write(0, 1), 3);
         due("35 get(1, 0, 2)", x.get(1, 0, 2), 3);
@@ -945,6 +989,15 @@ public final class PromiseTest {
         x.seen(17, 0, 1);
         due("37 digest() by the other calls", x.digest(), digestByCalls(x));
         due("37 digest() once more", x.digest(), digestByCalls(x));
+        // With what the one above has as 0 or NONE: FORGOTTEN, a QUIET one, one that had better not be.
+        SneezeGuard y = guard("50;50", "g0e9");
+        y.event(2, 4, 0);
+        y.event(1, 8, 0);
+        y.event(2, 17, 0);
+        due("37 digest() by the other calls", y.digest(), digestByCalls(y));
+        y.event(1, 17, 0);
+        y.event(1, 4, 0);
+        due("37 digest() by the other calls", y.digest(), digestByCalls(y));
         due("37 all() as it was", x.all(), x.count(5));
     }
 
@@ -998,5 +1051,25 @@ public final class PromiseTest {
         x.chance(3, 1, 0);
         x.decades(99, 8, 0);
         due("19 to 29 leave all as it was", digestByCalls(x), before);
+        // Each by itself, with one behind it that would show what it left.
+        SneezeGuard y = general();
+        y.event(1, 17, 0);
+        y.dust(3, 0);
+        due("20 leaves no PEPPER: hush(8, 1)", y.hush(8, 1), 0);
+        y.hush(8, 0);
+        due("21 leaves no nose HELD: dust(3, 1)", y.dust(3, 1), 2);
+        y.chance(0, 0, 0);
+        due("28 leaves all EVENTS: dust(3, 1)", y.dust(3, 1), 2);
+        y.never();
+        due("25 leaves all EVENTS: dust(3, 1)", y.dust(3, 1), 2);
+        y.decades(771, 1, 0);
+        due("29 leaves all EVENTS: dust(4, 1)", y.dust(4, 1), 2);
+        y.was(0, 0);
+        y.was(0, 1);
+        due("26 leaves the PERSON: dust(4, 1)", y.dust(4, 1), 2);
+        y.back();
+        y.event(0, 3, 3);
+        y.back();
+        due("9 leaves no PEPPER: changes(3)", y.changes(3), 0);
     }
 }
