@@ -16,6 +16,10 @@ final class Check {
         due(what, does ? 1 : 0, 1);
     }
 
+    boolean anyRight() {
+        return right != 0;
+    }
+
     boolean anyWrong() {
         return wrong != 0;
     }
